@@ -438,7 +438,12 @@ public final class CatNeed {
         if (what == 0) {
             return Integer.bitCount(set);
         }
-        return set == 0 ? LACKING : Integer.numberOfTrailingZeros(set) - 1;
+        for (int number = NONE; number < ruleCount; number++) {
+            if ((set >> number + 1 & 1) != 0) {
+                return number;
+            }
+        }
+        return LACKING;
     }
 
     public int look(int n, int what) {

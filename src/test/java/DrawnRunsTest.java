@@ -1,3 +1,8 @@
+import java.lang.reflect.InvocationTargetException;
+import java.lang.reflect.Method;
+import java.util.HashMap;
+import java.util.List;
+import java.util.Map;
 import java.util.Random;
 
 /** Drawn runs of calls, each answer compared with the Model's. The seeds are fixed. */
@@ -6,9 +11,9 @@ public final class DrawnRunsTest {
         "feed", "end", "room", "rule", "force", "thing", "cat", "need", "minute", "lift", "move", "strike", "teach", "undo", "ahead",
         "due", "served", "shut", "moved", "tray", "knowing", "rests", "ring", "pence", "note", "ruled", "look", "seed", "visits",
         "count", "image", "back"};
-    private static final int[] TAKES = {
-        5, 1, 0, 0, 1, 2, 2, 2, 0, 1, 2, 1, 2, 0, 3, 1, 1, 2, 3, 2, 2, 4, 1, 2, 3, 1, 2, 1, 4, 1, 1, 1};
     private static final int CALLS_IN_A_RUN = 512;
+    private static final Map<String, Method> MINE = methodsOf(CatNeed.class);
+    private static final Map<String, Method> MODELS = methodsOf(Model.class);
 
     private final Random random;
     private final CatNeed mine = new CatNeed();
@@ -21,77 +26,27 @@ public final class DrawnRunsTest {
         random = new Random(seed);
     }
 
-    static int answer(CatNeed x, String call, int[] a) {
-        switch (call) {
-            case "feed": return x.feed(a[0], a[1], a[2], a[3], a[4]);
-            case "end": return x.end(a[0]);
-            case "room": return x.room();
-            case "rule": return x.rule();
-            case "force": return x.force(a[0]);
-            case "thing": return x.thing(a[0], a[1]);
-            case "cat": return x.cat(a[0], a[1]);
-            case "need": return x.need(a[0], a[1]);
-            case "minute": return x.minute();
-            case "lift": return x.lift(a[0]);
-            case "move": return x.move(a[0], a[1]);
-            case "strike": return x.strike(a[0]);
-            case "teach": return x.teach(a[0], a[1]);
-            case "undo": return x.undo();
-            case "ahead": return x.ahead(a[0], a[1], a[2]);
-            case "due": return x.due(a[0]);
-            case "served": return x.served(a[0]);
-            case "shut": return x.shut(a[0], a[1]);
-            case "moved": return x.moved(a[0], a[1], a[2]);
-            case "tray": return x.tray(a[0], a[1]);
-            case "knowing": return x.knowing(a[0], a[1]);
-            case "rests": return x.rests(a[0], a[1], a[2], a[3]);
-            case "ring": return x.ring(a[0]);
-            case "pence": return x.pence(a[0], a[1]);
-            case "note": return x.note(a[0], a[1], a[2]);
-            case "ruled": return x.ruled(a[0]);
-            case "look": return x.look(a[0], a[1]);
-            case "seed": return x.seed(a[0]);
-            case "visits": return x.visits(a[0], a[1], a[2], a[3]);
-            case "count": return x.count(a[0]);
-            case "image": return x.image(a[0]);
-            default: return x.back(a[0]);
+    private static Map<String, Method> methodsOf(Class<?> type) {
+        Map<String, Method> out = new HashMap<>();
+        for (Method m : type.getDeclaredMethods()) {
+            if (List.of(CALLS).contains(m.getName()) && m.getReturnType() == int.class) {
+                out.put(m.getName(), m);
+            }
         }
+        return out;
     }
 
-    static int answer(Model x, String call, int[] a) {
-        switch (call) {
-            case "feed": return x.feed(a[0], a[1], a[2], a[3], a[4]);
-            case "end": return x.end(a[0]);
-            case "room": return x.room();
-            case "rule": return x.rule();
-            case "force": return x.force(a[0]);
-            case "thing": return x.thing(a[0], a[1]);
-            case "cat": return x.cat(a[0], a[1]);
-            case "need": return x.need(a[0], a[1]);
-            case "minute": return x.minute();
-            case "lift": return x.lift(a[0]);
-            case "move": return x.move(a[0], a[1]);
-            case "strike": return x.strike(a[0]);
-            case "teach": return x.teach(a[0], a[1]);
-            case "undo": return x.undo();
-            case "ahead": return x.ahead(a[0], a[1], a[2]);
-            case "due": return x.due(a[0]);
-            case "served": return x.served(a[0]);
-            case "shut": return x.shut(a[0], a[1]);
-            case "moved": return x.moved(a[0], a[1], a[2]);
-            case "tray": return x.tray(a[0], a[1]);
-            case "knowing": return x.knowing(a[0], a[1]);
-            case "rests": return x.rests(a[0], a[1], a[2], a[3]);
-            case "ring": return x.ring(a[0]);
-            case "pence": return x.pence(a[0], a[1]);
-            case "note": return x.note(a[0], a[1], a[2]);
-            case "ruled": return x.ruled(a[0]);
-            case "look": return x.look(a[0], a[1]);
-            case "seed": return x.seed(a[0]);
-            case "visits": return x.visits(a[0], a[1], a[2], a[3]);
-            case "count": return x.count(a[0]);
-            case "image": return x.image(a[0]);
-            default: return x.back(a[0]);
+    private static String answer(Map<String, Method> methods, Object of, String call, int[] a) {
+        Object[] arguments = new Object[a.length];
+        for (int i = 0; i < a.length; i++) {
+            arguments[i] = a[i];
+        }
+        try {
+            return methods.get(call).invoke(of, arguments).toString();
+        } catch (InvocationTargetException e) {
+            return e.getCause().toString();
+        } catch (IllegalAccessException e) {
+            throw new IllegalStateException(e);
         }
     }
 
@@ -109,9 +64,9 @@ public final class DrawnRunsTest {
         }
         calls++;
         told.append(name).append(java.util.Arrays.toString(a)).append('\n');
-        int want = answer(model, name, a);
-        int got = answer(mine, name, a);
-        if (got != want) {
+        String want = answer(MODELS, model, name, a);
+        String got = answer(MINE, mine, name, a);
+        if (!got.equals(want)) {
             wrong++;
             System.out.println(told + "answered " + got + ", due is " + want);
         }
@@ -242,7 +197,7 @@ public final class DrawnRunsTest {
 
     private void drawnCall() {
         int which = 4 + below(CALLS.length - 4);
-        int[] a = new int[TAKES[which]];
+        int[] a = new int[MINE.get(CALLS[which]).getParameterCount()];
         for (int i = 0; i < a.length; i++) {
             a[i] = argument();
         }

@@ -112,6 +112,14 @@ public final class PromiseTest {
         due("end(8)", x.end(8), -1);
         due("count(13)", x.count(13), 7);
         due("end(min)", x.end(Integer.MIN_VALUE), -1);
+        // What was cut off is not read.
+        CatNeed y = tell(new CatNeed(), "room 25;thing 1 1");
+        y.end(6);
+        due("room()", y.room(), 0);
+        due("LONG", y.count(0), 2);
+        CatNeed z = tell(new CatNeed(), "lie thing;lie 5");
+        z.end(6);
+        due("rule()", z.rule(), fault(4, 0));
     }
 
     private static void promise4() {
@@ -140,7 +148,54 @@ public final class PromiseTest {
         tell(x, "room 30");
         due("nothing in it", x.room(), 0);
         due("a minute of it", x.minute(), 0);
+        fewerThanBefore();
+        fullTapes();
         roomFaults();
+    }
+
+    private static void fewerThanBefore() {
+        CatNeed x = in("room 9" + ";thing 1 5".repeat(6) + ";cat 1 1 1".repeat(3) + ";need 5 1 0".repeat(8));
+        ruled(x, "lie 9*thing");
+        due("lost all", x.minute(), 255);
+        due("ring", x.ring(1), 1);
+        due("pence", x.pence(6, 5), 0);
+        due("due", x.due(5), 1);
+        due("count(7)", x.count(7), 255);
+        due("cats", x.thing(5, 4), 7);
+        due("moved", x.moved(0, 1, 1), 0);
+        due("shut", x.shut(1, 0), -1);
+        due("tray", x.tray(1, 1), 255);
+        due("rests", x.rests(0, 1, 1, 0), 25);
+        tell(x, "room 5;thing 1 3;cat 3 1 1;need 0 2 1");
+        due("room()", x.room(), 1);
+        x.force(-1);
+        due("count(7)", x.count(7), 0);
+        due("minute", x.minute(), 0);
+        due("count(7)", x.count(7), 1);
+        due("met", x.minute(), 0);
+        due("count(8)", x.count(8), 1);
+        due("count(9)", x.count(9), 0);
+        due("pence", x.pence(6, 0), 6);
+        due("ring", x.ring(0), 3);
+        due("ring", x.ring(1), 2);
+        due("shut", x.shut(10, 1), 15);
+        due("due", x.due(0), 3);
+        due("cats", x.thing(0, 4), 0);
+    }
+
+    private static void fullTapes() {
+        String blanks = " ".repeat(400);
+        due("a digit at the end", tell(new CatNeed(), "room" + blanks.substring(0, 395) + "2").room(), 0);
+        due("blanks at the end", tell(new CatNeed(), "room 2" + blanks.substring(0, 394)).room(), 0);
+        roomFault("room 2" + blanks.substring(0, 392) + ";c", 399, 0);
+        roomFault("room 2" + blanks.substring(0, 393) + ";", 400, 0);
+        roomFault("room" + blanks.substring(0, 396), 400, 0);
+        ruleFault("lie 1 if 1" + blanks.substring(0, 389) + "<", 400, 0);
+        ruleFault("lie 1 if 1" + blanks.substring(0, 389) + ">", 400, 0);
+        ruleFault("lie 1 if " + blanks.substring(0, 390) + "[", 400, 0);
+        ruleFault("lie 1 if " + blanks.substring(0, 388) + "not", 400, 0);
+        ruleFault("lie 1 if" + blanks.substring(0, 391) + "1", 400, 0);
+        due("a word at the end", tell(new CatNeed(), "lie" + blanks.substring(0, 394) + "far").rule(), 0);
     }
 
     private static void roomFaults() {
@@ -211,6 +266,14 @@ public final class PromiseTest {
         due("a faulty one", y.rule(), fault(3, 0));
         due("the tape", y.count(13), 0);
         due("count(4)", y.count(4), 0);
+        tell(y, "lie 9 if thing=1" + " and 1=1".repeat(18) + ";lie 9;lie;");
+        due("a long faulty one", y.rule(), fault(170, 0));
+        tell(y, "lie 8 if thing=0" + " and 1=1".repeat(18));
+        due("one in its place", y.rule(), 0);
+        y.force(0);
+        tell(y, "room 5;thing 1 1;thing 1 1;cat 1 1 1").room();
+        y.minute();
+        due("nothing is left of the faulty one", y.cat(0, 3), 0);
         ruleFaults();
         ruleLimits();
         ruleSums();
@@ -221,6 +284,12 @@ public final class PromiseTest {
     private static void ruleFaults() {
         ruleFault("lie ", 4, 0);
         ruleFault("lies 1", 0, 0);
+        ruleFault("  lies 1", 2, 0);
+        ruleFault("lie 1;   lies 1", 9, 0);
+        ruleFault("lie 1" + ";lie 1".repeat(11) + ";  lie 1", 74, 4);
+        ruleFault("lie farz", 4, 0);
+        ruleFault("lie   zfar", 6, 0);
+        ruleFault("lie 1 if 1   !1", 13, 0);
         ruleFault("1", 0, 0);
         ruleFault("lie -1", 4, 0);
         ruleFault("lie (1)", 4, 0);
@@ -340,6 +409,8 @@ public final class PromiseTest {
     private static void ruleWords() {
         wants("lie cat+1", 0);
         wants("lie far", 1);
+        wants("lie 9 if far=0", 0);
+        wants("lie 9 if far=1", 1);
         wants("lie due", 0);
         wants("lie 9 if due=2", 1);
         wants("lie 9 if due=6", 0);
@@ -628,6 +699,8 @@ public final class PromiseTest {
         due("cat", x.ahead(2, 0, 0), -2);
         due("cat", x.ahead(-1, 0, 1), -2);
         due("no room", new CatNeed().ahead(0, 0, 2), -2);
+        x.shut(5, 0);
+        due("none is shut out", x.ahead(1, 1, 0), 2);
         CatNeed y = in("room 9;thing 4 1;need 0 1 0");
         due("100 minutes", y.ahead(0, 100, 2), 100);
     }
@@ -647,6 +720,7 @@ public final class PromiseTest {
         due("no thing", x.due(-1), -1);
         CatNeed y = in("room 9;thing 4 1;thing 5 1;need 0 30 29");
         due("at 29", y.due(0), 29);
+        due("each minute", in("room 9;thing 4 1;need 0 1 0").due(0), 0);
         due("no need", y.due(1), -2);
     }
 
@@ -747,6 +821,7 @@ public final class PromiseTest {
         CatNeed z = in("room 9;thing 1 1;cat 1 1 2;need 0 9 1;need 0 9 3");
         due("the one that calls", z.tray(9, 0), 1);
         due("the one that calls", z.tray(9, 1), 2);
+        due("for one", x.tray(1, 0), 0);
         due("n 0", x.tray(0, 0), -1);
         due("n 41", x.tray(41, 0), -1);
         due("what", x.tray(1, 2), -1);
@@ -778,6 +853,9 @@ public final class PromiseTest {
         due("by the rule: the least", x.knowing(0, 1), 4);
         due("no cat", x.knowing(2, 0), -1);
         due("no cat", x.knowing(-1, 0), -1);
+        x.shut(5, 0);
+        x.ahead(0, 9, 2);
+        due("as told, whatever was asked", x.knowing(0, 1), 4);
         due("what", x.knowing(0, 2), -1);
         due("what", x.knowing(0, -1), -1);
     }
@@ -798,6 +876,16 @@ public final class PromiseTest {
         due("turned: first of one", z.rests(1, 0, 1, 1), 5);
         due("turned: first of other", z.rests(1, 0, 1, 2), 3);
         due("just one", z.rests(1, 0, 1, 0), 1);
+        due("for twenty", in("room 9;cat 1 1 1;cat 1 1 1").rests(0, 1, 20, 0), 25);
+        // CAT 1 stays in MINUTE 1 if both know 1, else neither gains by any other number.
+        CatNeed w = ruled(in("room 30;thing 1 1;thing 1 1;thing 29 1;cat 1 1 1;cat 1 1 1"),
+            "lie 9 if minute=0 and thing=1/knows;lie 9 if minute=1 and thing=1/knows and on*thing>=cat;lie 5 if minute=1 and thing=2");
+        due("the other looks to the first one's row", w.rests(0, 1, 2, 0), 21);
+        due("turned", w.rests(1, 0, 2, 0), 21);
+        due("first", w.rests(0, 1, 2, 1) * 10 + w.rests(0, 1, 2, 2), 11);
+        // Lying counts 1, a NEED that is lost under it 2: here for 5, which comes in time for it.
+        CatNeed v = in("room 9;thing 1 1;thing 8 1;cat 1 9 2;cat 8 9 2;need 0 9 5");
+        due("lost under it", v.rests(0, 1, 6, 1), 5);
         due("one twice", x.rests(0, 0, 1, 0), -1);
         due("no cat", x.rests(0, 2, 1, 0), -1);
         due("no cat", x.rests(-1, 1, 1, 0), -1);
@@ -837,9 +925,18 @@ public final class PromiseTest {
         due("from 1 on", v.ring(0), 1);
         CatNeed u = ruled(in("room 30;thing 29 1;thing 0 1;cat 0 1 1;need 0 30 0;need 0 20 0"), "lie 1");
         due("too late to come again", u.ring(0), -2);
+        due("in the sixtieth", ringBy(59).ring(0), 59);
+        due("in the sixtieth", ringBy(59).ring(1), 1);
+        due("behind the sixtieth", ringBy(60).ring(0), -2);
         due("what", x.ring(2), -1);
         due("what", x.ring(-1), -1);
         due("no room", new CatNeed().ring(0), -1);
+    }
+
+    /** CATS go one behind the other, a PLACE in each MINUTE up to this one. */
+    private static CatNeed ringBy(int last) {
+        return ruled(in("room 30;thing 29 1;cat 0 1 1;cat 0 1 1;cat 0 1 1"),
+            "lie 1 if cat=0 and minute<29 or cat=1 and minute>28 and minute<58 or cat=2 and minute>57 and minute<" + last);
     }
 
     private static void promise25() {
@@ -924,6 +1021,14 @@ public final class PromiseTest {
         x.note(-1, 0, 0);
         x.note(60, 1, 1);
         due("to the sixtieth", x.ruled(0), 2);
+        for (int i = 0; i < 9; i++) {
+            x.note(59, 1, 1);
+        }
+        due("ten notes", x.ruled(0), 2);
+        x.shut(9, 0);
+        x.strike(0);
+        x.ahead(0, 9, 0);
+        due("as told, whatever was asked", x.ruled(0), 2);
         due("what", x.ruled(2), -3);
         due("what", x.ruled(-1), -3);
         due("no room", new CatNeed().ruled(0), -3);
@@ -948,6 +1053,20 @@ public final class PromiseTest {
         due("of none", x.look(1, 0), -2);
         due("of none, what", x.look(1, 2), -1);
         due("no cats", in("room 9;thing 1 5").look(1, 1), -2);
+        CatNeed y = in("room 9;thing 8 1;thing 1 1;thing 1 1;thing 1 1;thing 1 1;thing 1 1;cat 1 1 1;cat 1 1 1;cat 1 1 1");
+        for (String thing : new String[] {"cat", "5", "5", "5-cat", "5-cat/2"}) {
+            ruled(y, "lie 1 if thing=" + thing);
+        }
+        // ON, by none and 0 to 4: CAT 0 none - 5 5 5 5, CAT 1 none 1 5 5 4 5, CAT 2 none 2 5 5 3 4.
+        due("the last thing", y.look(1, 1), 2);
+        due("the last cat", y.look(1, 0), 2);
+        y.note(1, 0, 5);
+        due("by CAT 2 of 1 to 4", y.look(1, 1), 2);
+        y.note(1, 1, 5);
+        due("by CAT 2 of 1, 2 and 4", y.look(1, 1), 2);
+        y.note(1, 2, 5);
+        due("1 and 2 are alike", y.look(1, 1), 2);
+        due("the least", y.look(1, 0), 0);
         due("no room", new CatNeed().look(0, 0), -1);
     }
 
@@ -986,6 +1105,9 @@ public final class PromiseTest {
         CatNeed y = ruled(in("room 9;thing 1 5;cat 3 1 1"), "lie 1");
         due("each from now on", y.visits(5, 3, 100, 0), 5);
         due("each from now on", y.visits(5, 3, 100, 1), 10);
+        due("one minute", y.visits(1, 1, 100, 0), 1);
+        due("two minutes", y.visits(1, 2, 100, 1), 1);
+        due("nothing changes", y.cat(0, 0), 3);
     }
 
     /** CATS lie on THINGS 0 and 1 of three from the first MINUTE on. */
@@ -1075,6 +1197,9 @@ public final class PromiseTest {
         due("knows", x.cat(1, 2), 1);
         due("undo", x.undo(), 2);
         due("place", x.cat(0, 0), 4);
+        due("undo", x.undo(), 1);
+        due("undo", x.undo(), 0);
+        due("as at the begin", x.cat(1, 0), 9);
         due("the other stays", x.back(2), 28);
         due("its rule", x.count(5), 1);
         due("again", x.back(1), 3);
@@ -1086,6 +1211,25 @@ public final class PromiseTest {
         due("back(1)", x.back(1), 3);
         due("the room of the image", x.count(0), 10);
         due("its thing", x.thing(1, 1), 3);
+        CatNeed y = three();
+        y.note(1, 1, 1);
+        y.image(0);
+        y.note(-1, 0, 0);
+        y.note(60, 0, 0);
+        due("by other notes", y.ruled(1), -1);
+        y.back(0);
+        due("by the notes of the image", y.ruled(1), 1);
+        due("how many", y.ruled(0), 2);
+        y.note(-1, 0, 0);
+        y.note(2, 1, 1);
+        y.image(0);
+        y.note(-1, 0, 0);
+        y.note(0, 1, 1);
+        due("not at the begin", y.ruled(0), 0);
+        y.back(0);
+        due("by the MINUTE of the image's note", y.ruled(0), 2);
+        due("back(32)", y.back(32), -1);
+        due("back(-32)", y.back(-32), -1);
     }
 
     public static void main(String[] args) {
