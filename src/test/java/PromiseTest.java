@@ -557,10 +557,10 @@ public final class PromiseTest {
         due("and it is lost", w.minute(), 1);
         due("stays", w.cat(0, 3), 0);
         CatNeed t = in("room 2");
-        for (int i = 0; i < 511; i++) {
+        for (int i = 0; i < 500; i++) {
             t.minute();
         }
-        due("511 minutes", t.count(6), 511);
+        due("500 minutes", t.count(6), 500);
     }
 
     private static void promise11() {
