@@ -197,7 +197,7 @@ public final class ActEdgesTest extends Edges {
     }
 
     private static void wanting() {
-        says(10, "it wants that THING for which the SUM is greatest, if it is above 0, of several the least (none, if none is such)");
+        says(10, "it wants that THING for which the SUM .. is greatest, if it is above 0, of several the least (none, if none is such)");
         wants("lie 1", 0);
         wants("lie 0", -1);
         wants("lie 0-1", -1);
@@ -305,7 +305,7 @@ public final class ActEdgesTest extends Edges {
     }
 
     private static void words() {
-        says(10, "WORDS: cat, thing, far (how many PLACES it lies from the CAT)");
+        says(10, "cat, thing, far (how many PLACES it lies from the CAT)");
         String ends = "room 30;thing 29 50;thing 0 0;cat 0 9 1;cat 29 1 9;cat 1 1 1";
         CatNeed x = in(ends);
         holds(x, 0, 0, "far=29");
@@ -315,7 +315,7 @@ public final class ActEdgesTest extends Edges {
         holds(x, 2, 1, "far=1");
         holds(x, 2, 0, "far=28");
 
-        says(10, "knows, pace, worth");
+        says(10, "WORDS .. of a CAT and a THING: .. knows, pace, worth");
         CatNeed y = in(ends);
         holds(y, 0, 0, "pace=9 and knows=1 and worth=50");
         holds(y, 1, 1, "pace=1 and knows=9 and worth=0");
@@ -350,7 +350,7 @@ public final class ActEdgesTest extends Edges {
         holds(v, 0, 0, "met=0 and lost=5");
         holds(v, 0, 1, "met=2 and lost=0");
 
-        says(10, "minute");
+        says(10, "WORDS .. of a CAT and a THING: .. minute");
         CatNeed u = in(ends);
         holds(u, 0, 0, "minute=0");
         forced(u, "lie 0");
@@ -651,6 +651,28 @@ public final class ActEdgesTest extends Edges {
             due("thing(0, 0) behind " + i, z.thing(0, 0), (i - 1) % 2);
         }
         due("undo()", z.undo(), -2);
+
+        says(15, "(each ACT of the last CAT, THING and NEED is UNDONE, too)");
+        CatNeed all = in("room 9" + ";thing 4 1".repeat(6) + ";cat 4 1 1".repeat(3) + ";need 5 1 0".repeat(8), "lie 1 if thing=5 and minute=1");
+        String begin = seen(all);
+        all.teach(2, 9);
+        all.strike(7);
+        all.strike(7);
+        all.move(5, 8);
+        all.move(5, 4);
+        all.minute();
+        due("MET: need(7, 4)", all.need(7, 4), 1);
+        due("minute()", all.minute(), 255);
+        due("LOST: need(7, 5)", all.need(7, 5), 1);
+        due("lift(2)", all.lift(2), 5);
+        due("undo()", all.undo(), 7);
+        due("cat(2, 0)", all.cat(2, 0), 4);
+        due("cat(2, 3)", all.cat(2, 3), 5);
+        for (int can = 6; can >= 0; can--) {
+            due("undo()", all.undo(), can);
+            due("thing(5, 0)", all.thing(5, 0), can == 4 ? 8 : 4);
+        }
+        same("all", seen(all), begin);
 
         says(15, "(what is no ACT is not UNDONE: the RULE IN FORCE, NOTES, x, the TAPE, RULES)");
         CatNeed w = after(in(ROOM), 1);

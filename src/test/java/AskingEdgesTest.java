@@ -218,6 +218,8 @@ public final class AskingEdgesTest extends Edges {
         which(y, 1, 0, 11);
         CatNeed lies = after(in("room 9;thing 4 5;cat 4 1 1;need 0 1 0", "lie 1 if minute=0"), 1);
         which(lies, 1, 0, 5);
+        CatNeed third = after(in(three, "lie 1 if thing=2 and cat=2 and minute=0"), 1);
+        which(third, 1, 2, 16);
         // The other sees that it is not ON its THING, and takes its place.
         CatNeed z = after(in("room 9;thing 4 5;cat 4 1 1;cat 4 1 1;need 0 1 0", "lie 1 if on=0"), 1);
         due("CAT 0 alone is ON it", z.thing(0, 4), 1);
@@ -254,7 +256,7 @@ public final class AskingEdgesTest extends Edges {
         where(y, 0, 60, 1, 800);
         due("moved(0, 60, 1) of eight", in("room 9;thing 4 50" + ";need 0 1 0".repeat(8)).moved(0, 60, 1), 24000);
 
-        says(20, "(where it does, too), of several where it does, then the least");
+        says(20, "(where it does, too; .. of several where it does, then the least");
         where(in("room 9;thing 8 5;thing 0 4;need 0 1 0"), 0, 10, 8, 50);
         where(in("room 9;thing 0 5;cat 8 1 1;need 0 1 0", "lie 1"), 0, 7, 0, 35);
         where(in("room 9;thing 4 5;cat 4 1 1;need 0 1 0", "lie 1"), 0, 1, 0, 5);
@@ -369,7 +371,7 @@ public final class AskingEdgesTest extends Edges {
     }
 
     private static void knowing() {
-        says(22, "numbers 1 to 9 as KNOWS, in place of what the text told, by which from the begin on all NOTES are so: how many; the least");
+        says(22, "numbers 1 to 9 as KNOWS, in place of what the text told, by which from the begin on .. all NOTES are so: how many; the least");
         // What a CAT that knows k foresees in MINUTE 9 - k, it is ON at the begin of the next one.
         String room = "room 9;thing 4 1;cat 4 1 5;cat 0 1 1;need 0 30 9";
         numbers(in(room), 0, 9, 1);
@@ -452,6 +454,12 @@ public final class AskingEdgesTest extends Edges {
         CatNeed two = in("room 30;thing 4 1;thing 4 1;cat 4 1 1;cat 4 1 1;need 0 30 7;need 1 30 3");
         twos(two, 0, 1, 1, 4, 3, 3);
 
+        // CAT 1 stays in MINUTE 1 if both know 1, else neither gains by any other number.
+        CatNeed row = in("room 30;thing 1 1;thing 1 1;thing 29 1;cat 1 1 1;cat 1 1 1",
+            "lie 9 if minute=0 and thing=1/knows;lie 9 if minute=1 and thing=1/knows and on*thing>=cat;lie 5 if minute=1 and thing=2");
+        twos(row, 0, 1, 2, 21, 1, 1);
+        twos(row, 1, 0, 2, 21, 1, 1);
+
         says(23, "-2: there is none");
         CatNeed none = in("room 30;thing 1 1;thing 1 1;thing 29 1;cat 1 1 1;cat 1 1 1",
             "lie 9 if minute=0 and thing=1/knows;lie 9 if minute=1 and thing=1/knows and on+cat=1;lie 5 if minute=1 and thing=2");
@@ -524,6 +532,14 @@ public final class AskingEdgesTest extends Edges {
         rings(y, 1, 3);
         CatNeed back = in("room 9;thing 4 1;thing 5 1;cat 4 1 1;cat 4 1 1", "lie 1 if cat=1 and thing=minute%2");
         rings(back, 1, 2);
+        for (int on = 0; on < 6; on++) {
+            // It goes from where it is ON a THING to the next PLACE, where it is ON nothing, and back.
+            CatNeed step = in("room 30" + ";thing 4 1".repeat(6) + ";cat 4 1 1;cat 0 1 1", "lie 1 if cat=0 and thing=" + on);
+            rings(step, 1, 1);
+            CatNeed steps = in("room 30" + (";thing 29 1".repeat(on) + ";thing 4 1" + ";thing 29 1".repeat(5 - on)) + ";cat 4 1 1;cat 0 1 1",
+                "lie 1 if cat=0 and [minute%2=0 and thing=" + on + " or minute%2=1 and thing=" + (on + 1) % 6 + "]");
+            rings(steps, 1, 2);
+        }
         CatNeed lifted = after(in("room 9;thing 0 1;cat 0 1 1", "lie 1 if minute=0 or minute=5"), 1);
         rings(lifted, 1, 1);
         lifted.lift(0);
@@ -559,7 +575,7 @@ public final class AskingEdgesTest extends Edges {
     }
 
     private static void pence() {
-        says(25, "PENCE (0 to 9999) among THINGS: each the part downwards; what is left, one each, to those whose part lost most by that, of several the least first");
+        says(25, "PENCE (0 to 9999) among THINGS .. each the part downwards; what is left, one each, to those whose part lost most by that, of several the least first");
         CatNeed x = after(in("room 9;thing 1 5;thing 2 3;thing 3 1;thing 4 1;need 0 1 0;need 1 1 0;need 2 1 0;need 3 9 8"), 1);
         parts(x, 0, 0, 0, 0, 0);
         parts(x, 1, 1, 0, 0, 0);
@@ -584,6 +600,8 @@ public final class AskingEdgesTest extends Edges {
         parts(y, 35, 29, 6);
         CatNeed lost = after(in("room 9;thing 4 5;thing 4 5;cat 4 1 1;need 0 1 0;need 1 1 0", "lie 1"), 3);
         parts(lost, 9999, 0, 9999);
+
+        parts(after(in("room 9;thing 1 1;thing 1 1;need 1 9 0"), 1), 7, 0, 7);
 
         says(25, "nothing, if there is none");
         parts(in(ROOM), 9999, 0, 0);

@@ -3,6 +3,8 @@ import java.util.TreeSet;
 /**
  * What the tests of edges share. Each of them says which promise and which sentence of the document
  * it looks at (says), and what is due there (due, same). No object is used for more than 512 calls.
+ * Where a sentence is too long, " .. " stands for what was left out; what stands in brackets as a
+ * whole is no sentence of the document, but follows from it.
  */
 abstract class Edges {
     static final int LEAST = Integer.MIN_VALUE;

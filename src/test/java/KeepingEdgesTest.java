@@ -8,7 +8,7 @@ public final class KeepingEdgesTest extends Edges {
     // ---- promise 26 ----
 
     private static void note() {
-        says(26, "A NOTE: how many");
+        says(26, "A NOTE .. how many");
         CatNeed x = in("room 9" + ";thing 4 1".repeat(6) + ";cat 4 1 1".repeat(3));
         due("note(0, 0, 0)", x.note(0, 0, 0), 1);
         due("note(60, 2, 5)", x.note(60, 2, 5), 2);
@@ -86,7 +86,7 @@ public final class KeepingEdgesTest extends Edges {
     }
 
     private static void ruled() {
-        says(27, "which of the RULES, and of none, so that all NOTES are so: how many; the first (none ahead of 0, told as NONE)");
+        says(27, "which of the RULES, and of none, so that .. all NOTES are so: how many; the first (none ahead of 0, told as NONE)");
         rules(in("room 2"), 1, -1);
         rules(six(), 7, -1);
         for (int rule = 0; rule < 6; rule++) {
@@ -135,7 +135,7 @@ public final class KeepingEdgesTest extends Edges {
         y.force(-1);
         rules(y, 1, -1);
 
-        says(27, "NONE: none; -2: there is none such. -3 for others, or without a ROOM");
+        says(27, "(NONE: none; -2: there is none such). -3 for others, or without a ROOM");
         for (int what : NO_WHAT) {
             due("ruled(" + what + ")", y.ruled(what), -3);
         }
@@ -171,18 +171,30 @@ public final class KeepingEdgesTest extends Edges {
             // By none, 0, 1, 2: CAT cat is ON nothing, 0, 0, 1, the others nothing, 0, 0, 0.
             best(x, 1, cat, 2);
         }
+        CatNeed y5 = in("room 9;thing 8 1" + ";thing 1 1".repeat(5) + ";cat 1 1 1".repeat(3));
+        for (String thing : new String[] {"cat", "5", "5", "5-cat", "5-cat/2"}) {
+            tell(y5, "lie 1 if thing=" + thing).rule();
+        }
+        // ON, by none and 0 to 4: CAT 0 nothing, nothing (too far), 5 5 5 5, CAT 1 nothing, 1 5 5 4 5, CAT 2 nothing, 2 5 5 3 4.
+        best(y5, 1, 2, 2);
+        y5.note(1, 0, 5);
+        best(y5, 1, 2, 2);
+        y5.note(1, 1, 5);
+        best(y5, 1, 2, 2);
+        y5.note(1, 2, 5);
+        best(y5, 1, 0, 2);
         CatNeed two = in("room 9;thing 4 1;cat 0 1 1;cat 4 1 1;cat 4 1 1", "lie 1");
         best(two, 1, 1, 1);
         best(two, 4, 0, 1);
         best(two, 3, 1, 1);
 
-        says(28, "LOOK (n 0 to 60), at the begin of the n-th MINUTE");
+        says(28, "LOOK (n 0 to 60) .. at the begin of the n-th MINUTE");
         CatNeed y = in("room 9;thing 4 1;cat 4 1 1", "lie 1 if minute=59");
         best(y, 0, 0, 2);
         best(y, 59, 0, 2);
         best(y, 60, 0, 1);
 
-        says(28, "which of the RULES, and of none, so that all NOTES are so");
+        says(28, "which of the RULES, and of none, so that .. all NOTES are so");
         CatNeed z = six();
         z.note(30, 0, -1);
         best(z, 31, 0, 3);
@@ -212,7 +224,7 @@ public final class KeepingEdgesTest extends Edges {
     // ---- promises 29 and 30 ----
 
     private static void seed() {
-        says(29, "x becomes a number: what it was (0 to 2147483647; 0 at first)");
+        says(29, "x becomes a number: what it was .. (0 to 2147483647; 0 at first)");
         CatNeed x = new CatNeed();
         due("seed(MOST)", x.seed(MOST), 0);
         due("seed(1)", x.seed(1), MOST);
@@ -255,7 +267,7 @@ public final class KeepingEdgesTest extends Edges {
     }
 
     private static void visits() {
-        says(30, "VISITS m times (1 to 10) n MINUTES (1 to 60)");
+        says(30, "VISITS m times (1 to 10; .. n MINUTES (1 to 60)");
         CatNeed free = in("room 9;thing 4 1;cat 0 1 1");
         have(free, 1, 1, 100, 1, 0);
         have(free, 10, 1, 100, 10, 0);
@@ -266,8 +278,9 @@ public final class KeepingEdgesTest extends Edges {
 
         says(30, "ahead of each MINUTE a DRAW mod 100; is it below p (0 to 100)");
         have(free, 10, 60, 0, 0, 0);
-        // By these x the first DRAW is 0, 98, 99, 100, 32699, 32700, 32767.
-        int[][] seeds = {{2088216195, 0}, {421635715, 98}, {75933315, 99}, {1877714563, 0}, {171878019, 99}, {1973659267, 0}, {286434947, 67}};
+        // By these x the first DRAW is 0, 98, 99, 100, 32699, 32700, 32767, just so or 65535 65536ths above it.
+        int[][] seeds = {{2088216195, 0}, {421635715, 98}, {75933315, 99}, {1877714563, 0}, {171878019, 99}, {1973659267, 0}, {286434947, 67},
+            {2032319262, 0}, {365738782, 98}, {20036382, 99}, {230538014, 67}};
         for (int[] seed : seeds) {
             free.seed(seed[0]);
             have(free, 1, 1, 100, 1, 0);
@@ -275,7 +288,7 @@ public final class KeepingEdgesTest extends Edges {
             have(free, 1, 1, seed[1] + 1, 1, 0);
         }
 
-        says(30, "x becomes x * 1103515245 + 12345, of 2147483648 the rest; a DRAW is x / 65536");
+        says(30, "becomes x * 1103515245 + 12345, of 2147483648 the rest; a DRAW is x / 65536");
         for (int things = 1; things <= 6; things++) {
             CatNeed x = in("room 9" + ";thing 4 1".repeat(things) + ";cat 4 1 1", "lie 1 if thing=" + (things - 1));
             for (int seed : new int[] {0, 1, 4711, 2147483646, MOST}) {
@@ -305,7 +318,7 @@ public final class KeepingEdgesTest extends Edges {
         after(comes, 1);
         have(comes, 1, 1, 100, 0, 1);
 
-        says(30, "each from now on, as all is; x goes on; all together");
+        says(30, "each from now on, as all is; x goes on .. all together");
         CatNeed each = in("room 9;thing 4 1;cat 2 1 1", "lie 1");
         have(each, 1, 3, 100, 1, 2);
         have(each, 7, 3, 100, 7, 14);
@@ -375,7 +388,7 @@ public final class KeepingEdgesTest extends Edges {
     // ---- promises 32 and 33 ----
 
     private static void image() {
-        says(32, "An IMAGE is made: the MINUTE (IMAGES 0 to 3)");
+        says(32, "An IMAGE is made: the MINUTE .. IMAGES 0 to 3");
         CatNeed x = in(ROOM);
         for (int k = 0; k < 4; k++) {
             due("image(" + k + ")", x.image(k), k);
@@ -431,7 +444,7 @@ public final class KeepingEdgesTest extends Edges {
         due("back(1)", x.back(1), 2);
         due("back(0) of a new object", new CatNeed().back(0), -1);
 
-        says(33, "All is as in an IMAGE: the MINUTE; all but the RULES and the TAPE, as it is (the RULE IN FORCE, what can be UNDONE, too)");
+        says(33, "All is as in an IMAGE: the MINUTE .. all but the RULES and the TAPE, as it is (the RULE IN FORCE, what can be UNDONE, too)");
         CatNeed y = after(in("room 9;thing 4 1;thing 6 2;cat 2 2 1;cat 8 2 2;need 0 3 1;need 1 1 0", "lie 1 if thing=cat"), 3);
         y.strike(0);
         y.teach(0, 9);
@@ -463,6 +476,55 @@ public final class KeepingEdgesTest extends Edges {
         due("count(6)", y.count(6), 0);
         due("gone back to again: back(2)", y.back(2), 3);
         same("all", seen(y), before);
+
+        for (int[] other : new int[][] {{2, 0, 0}, {1, 1, 0}, {1, 0, 1}, {0, 0, 0}}) {
+            // By none and by RULE 1 nothing is noted so; by RULE 0 it is.
+            CatNeed notes = in("room 9;thing 4 1;thing 4 1;cat 4 1 1;cat 4 1 1", "lie 1 if cat=0 and thing=minute");
+            for (int i = 0; i < 10; i++) {
+                notes.note(1, 0, 0);
+            }
+            notes.image(0);
+            rules(notes, 1, 0);
+            notes.note(-1, 0, 0);
+            for (int i = 0; i < 10; i++) {
+                notes.note(other[0], other[1], other[2]);
+            }
+            rules(notes, 0, -2);
+            notes.back(0);
+            rules(notes, 1, 0);
+            due("count(10)", notes.count(10), 10);
+            // The tenth alone tells the two apart.
+            CatNeed tenth = in("room 9;thing 4 1;thing 4 1;cat 4 1 1;cat 4 1 1", "lie 1 if cat=0 and thing=minute");
+            for (int i = 0; i < 9; i++) {
+                tenth.note(0, 0, -1);
+            }
+            tenth.note(1, 0, 0);
+            tenth.image(0);
+            tenth.note(-1, 0, 0);
+            for (int i = 0; i < 10; i++) {
+                tenth.note(other[0], other[1], other[2]);
+            }
+            tenth.back(0);
+            rules(tenth, 1, 0);
+        }
+
+        says(33, "(the last CAT, THING and NEED are as they were, too)");
+        CatNeed all = in("room 9" + ";thing 4 1".repeat(6) + ";cat 4 1 1".repeat(3) + ";need 5 1 0".repeat(8), "lie 1 if thing=5 and minute=1");
+        after(all, 2);
+        all.teach(2, 9);
+        all.strike(7);
+        all.image(1);
+        before = seen(all);
+        all.lift(2);
+        all.lift(1);
+        all.lift(0);
+        all.move(5, 8);
+        all.teach(2, 8);
+        all.minute();
+        all.strike(7);
+        all.minute();
+        due("back(1)", all.back(1), 2);
+        same("all", seen(all), before);
 
         says(33, "gone back to, it is as it was (these stay)");
         CatNeed z = in(ROOM);

@@ -160,7 +160,7 @@ public final class TellingEdgesTest extends Edges {
     }
 
     private static void room() {
-        says(4, "The TAPE, which is empty then, is the ROOM in place of the one there was: how many THINGS");
+        says(4, "The TAPE, which is empty then, is the ROOM in place of the one there was .. how many THINGS");
         for (int things = 0; things <= 6; things++) {
             CatNeed x = tell(new CatNeed(), "room 5" + ";thing 4 1".repeat(things));
             due("room() of " + things + " things", x.room(), things);
@@ -213,6 +213,16 @@ public final class TellingEdgesTest extends Edges {
         tell(y, "room 5;thing 1 5;thing 3 6;cat 1 1 1;cat 3 1 1;need 0 1 0;need 1 2 0").room();
         same("behind it", seen(y), "count 5 2 2 2 1 0 0 3 0 0 0 0 0 0; thing 1 5 0 0 0; thing 3 6 0 0 0; cat 1 1 1 -1; cat 3 1 1 -1; need 0 1 0 0 0 0; need 1 2 0 0 0 0");
         due("minute()", y.minute(), 3);
+        CatNeed z = after(in("room 5;thing 1 5;thing 1 6;cat 1 1 1" + ";need 0 1 0;need 1 1 0".repeat(4), "lie 1 if thing=minute%2"), 2);
+        for (int need = 0; need < 8; need++) {
+            due("ahead of it: need(" + need + ", 4)", z.need(need, 4), 1);
+            due("ahead of it: need(" + need + ", 5)", z.need(need, 5), 1);
+        }
+        tell(z, "room 5;thing 1 5;thing 1 6;cat 1 1 1" + ";need 0 1 0;need 1 1 0".repeat(4)).room();
+        for (int need = 0; need < 8; need++) {
+            due("need(" + need + ", 4)", z.need(need, 4), 0);
+            due("need(" + need + ", 5)", z.need(need, 5), 0);
+        }
     }
 
     private static void roomRefused() {
@@ -258,7 +268,7 @@ public final class TellingEdgesTest extends Edges {
         roomFault("room 2 thing 0 0", 7, 0);
         roomFault("room 2,thing 0 0", 6, 0);
 
-        says(4, "room NUMBER (LONG 2 to 30, PLACES 0 to LONG - 1)");
+        says(4, "room NUMBER (LONG 2 to 30, PLACES 0 to LONG - 1; ..");
         for (int length = 0; length <= 40; length++) {
             due("room() of LONG " + length, room("room " + length), length < 2 || length > 30 ? fault(5, 1) : 0);
         }
@@ -348,6 +358,8 @@ public final class TellingEdgesTest extends Edges {
         roomFault("room 9 9", 7, 0);
         roomFault("room 9;room_ 9", 7, 4);
         roomFault("room 9;things 8 1", 7, 0);
+        roomFault("room 9;thingz 8 1", 7, 0);
+        roomFault("room 9;thinga 8 1", 7, 0);
         roomFault("room 9;thin 8 1", 7, 0);
         roomFault("room 9;thing 8,1", 14, 0);
         roomFault("room 9;thing 8;1", 14, 0);
@@ -377,7 +389,7 @@ public final class TellingEdgesTest extends Edges {
         roomFault("room 2;room", 7, 4);
         roomFault("cat", 0, 4);
 
-        says(4, "FAULTS, the first along the text; of one place the least");
+        says(4, "FAULTS, the first along the text .. Of one place the least");
         roomFault("room 31;room 2", 5, 1);
         roomFault("room 2;thing 9 99", 13, 1);
         roomFault("room 2;thing 0 99;thing 9 9", 15, 1);
@@ -550,6 +562,9 @@ public final class TellingEdgesTest extends Edges {
             isRule("lie " + word);
             isRule("lie " + word + "+1");
             ruleFault("lie " + word + "s", 4, 0);
+            ruleFault("lie " + word + "a", 4, 0);
+            ruleFault("lie " + word + "z", 4, 0);
+            ruleFault("lie z" + word, 4, 0);
             ruleFault("lie " + word.substring(0, word.length() - 1), 4, 0);
             ruleFault("lie " + word.substring(1), 4, 0);
             ruleFault("lie " + word + "1", 4 + word.length(), 0);
@@ -613,7 +628,7 @@ public final class TellingEdgesTest extends Edges {
         isRule("lie far" + "*far".repeat(59));
         ruleFault("lie far" + "*far".repeat(60), 244, 3);
 
-        says(5, "3 one VALUE or FACT too many (at its first byte; of a FACT at its SIGN); of one place the least");
+        says(5, "3 one VALUE or FACT too many (at its first byte; of a FACT at its SIGN) .. Of one place the least");
         ruleFault("lie 1" + "+1".repeat(59) + "+   12", 127, 3);
         ruleFault("lie 1" + "+1".repeat(59) + "+123456", 124, 1);
         ruleFault("lie 1" + "+1".repeat(59) + "+fa", 124, 0);
