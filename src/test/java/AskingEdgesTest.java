@@ -459,6 +459,11 @@ public final class AskingEdgesTest extends Edges {
             "lie 9 if minute=0 and thing=1/knows;lie 9 if minute=1 and thing=1/knows and on*thing>=cat;lie 5 if minute=1 and thing=2");
         twos(row, 0, 1, 2, 21, 1, 1);
         twos(row, 1, 0, 2, 21, 1, 1);
+        // CAT 0 has more by what CAT 1 KNOWS, by nothing of its own; CAT 1 has as much by any number.
+        CatNeed lent = in("room 9;thing 4 1;thing 4 1;cat 4 1 1;cat 4 1 1",
+            "lie 1 if cat=1 and minute=0 and [thing=0 and knows=3 or thing=1 and not knows=3];lie 1 if cat=0 and minute=1 and thing=0 and on>0");
+        twos(lent, 0, 1, 2, 25, 1, 1);
+        twos(lent, 1, 0, 2, 25, 1, 1);
 
         says(23, "-2: there is none");
         CatNeed none = in("room 30;thing 1 1;thing 1 1;thing 29 1;cat 1 1 1;cat 1 1 1",
