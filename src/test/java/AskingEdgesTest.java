@@ -28,6 +28,15 @@ public final class AskingEdgesTest extends Edges {
         }
         same("all, behind each question", seen(x), before);
         due("undo()", x.undo(), 3);
+        x = after(in(ROOM), 3);
+        before = seen(x);
+        int refused = x.ahead(2, 1, 0) + x.ahead(0, 101, 0) + x.ahead(0, 1, 4) + x.due(2) + x.served(3) + x.shut(61, 0) + x.shut(1, 2)
+            + x.moved(2, 1, 0) + x.moved(0, 61, 0) + x.tray(41, 0) + x.knowing(2, 0) + x.rests(0, 2, 1, 0) + x.rests(0, 1, 21, 0)
+            + x.ring(2) + x.pence(10000, 0) + x.ruled(2) + x.look(61, 0) + x.visits(11, 1, 0, 0) + x.visits(1, 61, 0, 0) + x.visits(1, 1, 101, 0);
+        due("all that are refused, together", refused, -5 * 2 - 3 - 14);
+        same("all, behind what was refused", seen(x), before);
+        due("ahead(1, 2, 0)", x.ahead(1, 2, 0), 5);
+        due("undo()", x.undo(), 2);
         // Nor does one question change what another one answers.
         CatNeed y = after(in(ROOM), 3);
         y.note(2, 1, -1);
