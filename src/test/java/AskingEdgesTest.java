@@ -54,6 +54,15 @@ public final class AskingEdgesTest extends Edges {
         due("ahead(1, 2, 0) behind knowing", y.ahead(1, 2, 0), 5);
         due("minute()", y.minute(), 0);
         due("minute()", y.minute(), 1);
+        CatNeed z = in("room 9;thing 4 1;thing 4 1;cat 4 1 1;cat 4 1 1", "lie 1 if thing=cat");
+        z.note(1, 1, 1);
+        z.shut(60, 0);
+        due("ruled(0) behind shut", z.ruled(0), 1);
+        z.shut(60, 0);
+        due("knowing(1, 0) behind shut", z.knowing(1, 0), 9);
+        z.shut(60, 0);
+        z.note(-1, 0, 0);
+        due("look(1, 1) behind shut", z.look(1, 1), 1);
     }
 
     // ---- promise 16 ----
@@ -490,6 +499,9 @@ public final class AskingEdgesTest extends Edges {
         twos(in(begin + ";need 0 30 3", rule), 0, 1, 4, 10, 3, 1);
         twos(in(begin + ";need 0 30 3;need 0 30 3", rule), 0, 1, 4, 5, 3, 1);
         twos(in(begin + ";need 1 30 3", rule), 0, 1, 4, 5, 5, 1);
+
+        CatNeed full = in("room 9" + ";thing 4 1".repeat(6) + ";cat 4 1 1".repeat(3) + ";need 5 1 0".repeat(8), "lie 1 if thing=5 and knows=9");
+        twos(full, 1, 2, 20, 1, 9, 9);
 
         says(23, "NONE without these (unlike)");
         for (int[] cats : new int[][] {{0, 0}, {1, 1}, {2, 2}, {0, 3}, {3, 0}, {0, -1}, {-1, 0}, {LEAST, 0}, {0, MOST}, {-1, -1}}) {

@@ -205,6 +205,29 @@ public final class TellingEdgesTest extends Edges {
         due("back(3)", x.back(3), 4);
         due("count(11)", x.count(11), 6);
 
+        says(4, "(of a ROOM with more in it nothing is left)");
+        CatNeed few = in("room 9" + ";thing 1 5".repeat(6) + ";cat 1 1 1".repeat(3) + ";need 0 1 0".repeat(8));
+        tell(few, "room 5;thing 1 3;cat 3 1 1;need 0 2 1").room();
+        same("all", seen(few), "count 5 1 1 1 0 -1 0 0 0 0 0 0 0 0; thing 1 3 0 0 0; cat 3 1 1 -1; need 0 2 1 0 0 0");
+        due("due(0)", few.due(0), 1);
+        due("one foreseen: ahead(0, 1, 0)", few.ahead(0, 1, 0), 2);
+        due("then none foreseen: ahead(0, 2, 0)", few.ahead(0, 2, 0), 2);
+        due("ring(0)", few.ring(0), 3);
+        due("ring(1)", few.ring(1), 2);
+        due("tray(40, 1)", few.tray(40, 1), 1);
+        due("shut(40, 1)", few.shut(40, 1), 60);
+        due("minute()", few.minute(), 0);
+        due("count(7)", few.count(7), 1);
+        due("need(1, 0)", few.need(1, 0), -1);
+        CatNeed one = in("room 9;thing 1 5;cat 1 1 1;cat 1 1 1;need 0 7 0;need 0 1 0");
+        tell(one, "room 5;thing 1 3;cat 1 1 1;cat 1 1 1").room();
+        due("never: due(0)", one.due(0), -2);
+        due("none foreseen: ahead(0, 1, 1)", one.ahead(0, 1, 1), -1);
+        due("ring(1)", one.ring(1), 1);
+        forced(one, "lie 1 if due=99 and knows=1");
+        due("rests(0, 1, 1, 0)", one.rests(0, 1, 1, 0), 1);
+        due("rests(0, 1, 2, 1)", one.rests(0, 1, 2, 1), 1);
+
         says(4, "It is MINUTE 0; no CAT is ON anything, no NEED is STRUCK, none was MET or LOST");
         CatNeed y = in("room 5;thing 1 5;thing 3 6;cat 1 1 1;cat 3 1 1;need 0 1 0;need 1 2 0", "lie 1 if thing=cat");
         after(y, 3);
@@ -457,6 +480,10 @@ public final class TellingEdgesTest extends Edges {
         due("ahead(0, 1, 1)", x.ahead(0, 1, 1), 0);
         tell(x, "room 5;thing 1 1;thing 1 1;cat 1 1 1").room();
         due("it stays with another ROOM", x.ahead(0, 1, 1), 0);
+        tell(x, "lie 9 if thing=1;lie 0;lie");
+        due("rule()", x.rule(), fault(26, 0));
+        forced(x, "lie 8 if thing=0");
+        due("ahead(0, 1, 1)", x.ahead(0, 1, 1), 0);
     }
 
     private static void ruleTerms() {
@@ -518,6 +545,9 @@ public final class TellingEdgesTest extends Edges {
         ruleFault("lie 1 if 1=1=1", 12, 0);
         ruleFault("lie 1 if 1", 10, 0);
         ruleFault("lie 1 if 1 and 1=1", 11, 0);
+        ruleFault("lie 1 if 1 2", 11, 0);
+        ruleFault("lie 1 if far due", 13, 0);
+        ruleFault("lie 1 if far far=1", 13, 0);
         ruleFault("lie 1 if []", 10, 0);
         ruleFault("lie 1 if [1=1", 13, 0);
         ruleFault("lie 1 if 1=1]", 12, 0);
@@ -565,6 +595,10 @@ public final class TellingEdgesTest extends Edges {
             ruleFault("lie " + word + "a", 4, 0);
             ruleFault("lie " + word + "z", 4, 0);
             ruleFault("lie z" + word, 4, 0);
+            isRule("lie" + blanks(397 - word.length()) + word);
+            for (int n = 1; n < word.length(); n++) {
+                ruleFault("lie" + blanks(397 - n) + word.substring(0, n), 400 - n, 0);
+            }
             ruleFault("lie " + word.substring(0, word.length() - 1), 4, 0);
             ruleFault("lie " + word.substring(1), 4, 0);
             ruleFault("lie " + word + "1", 4 + word.length(), 0);
